@@ -109,8 +109,22 @@ public final class ReadBins {
         if (!isWithin(u, TAG_LIMIT) || !isWithin(way, 1)) {
             throw new IllegalArgumentException("u is not 0 .. 12, or the way is not 0 or 1");
         }
-        sorting.arrange(reads, barcodes, trimmer, u, way);
+        sorting.restart(barcodes.count(), u, way);
+        for (int i = 0; i < reads.count(); i++) {
+            sortRead(i, u);
+        }
+        sorting.finish();
         return sorting.readsIn(NO_BIN);
+    }
+
+    private void sortRead(int i, int u) {
+        int headSize = barcodes.length() + u;
+        int bin = reads.letterCount(i) < headSize ? NO_BIN : barcodes.nearTo(reads, i);
+        trimmer.cut(reads, i, bin == NO_BIN ? 0 : headSize);
+        sorting.add(reads, bin, trimmer);
+        if (bin != NO_BIN && !trimmer.isTooShort()) {
+            sorting.grouping().enter(reads, i, bin, barcodes.length());
+        }
     }
 
     public int about(int i, int what) throws IndexOutOfBoundsException {
@@ -417,7 +431,7 @@ public final class ReadBins {
         }
 
         private boolean hasLetter(int i, int k) {
-            return has(i) && k >= 0 && k < letterCounts[i];
+            return i >= 0 && i < count && i < READ_LIMIT && k >= 0 && k < letterCounts[i];
         }
     }
 
@@ -793,13 +807,28 @@ public final class ReadBins {
             return grouping;
         }
 
-        void arrange(Reads reads, Barcodes barcodes, Trimmer trimmer, int tagSize, int way) {
-            readCount = Math.min(reads.count(), READ_LIMIT);
-            binCount = barcodes.count();
+        /** Until it is finished, the reads are added in their order. */
+        void restart(int barcodeCount, int tagSize, int way) {
+            done = false;
+            readCount = 0;
+            binCount = barcodeCount;
             grouping.restart(tagSize, way);
-            for (int i = 0; i < readCount; i++) {
-                arrangeRead(reads, i, barcodes, trimmer, tagSize);
+        }
+
+        void add(Reads reads, int bin, Trimmer trimmer) {
+            int i = readCount;
+            if (i < 0 || i >= READ_LIMIT) {
+                return;
             }
+            bins[i] = bin;
+            begins[i] = trimmer.begin();
+            ends[i] = trimmer.end();
+            shorts[i] = trimmer.isTooShort();
+            worths[i] = sumOfQualities(reads, i);
+            readCount++;
+        }
+
+        void finish() {
             for (int bin = 0; bin < binCount; bin++) {
                 grouping.formGroups(bin);
             }
@@ -865,25 +894,9 @@ public final class ReadBins {
             return has(i) ? worths[i] : 0;
         }
 
-        private void arrangeRead(Reads reads, int i, Barcodes barcodes, Trimmer trimmer, int tagSize) {
-            if (!has(i)) {
-                return;
-            }
-            int headSize = barcodes.length() + tagSize;
-            bins[i] = reads.letterCount(i) < headSize ? NO_BIN : barcodes.nearTo(reads, i);
-            trimmer.cut(reads, i, bins[i] == NO_BIN ? 0 : headSize);
-            begins[i] = trimmer.begin();
-            ends[i] = trimmer.end();
-            shorts[i] = trimmer.isTooShort();
-            worths[i] = sumOfQualities(reads, i);
-            if (bins[i] != NO_BIN && !shorts[i]) {
-                grouping.enter(reads, i, bins[i], barcodes.length());
-            }
-        }
-
         private int sumOfQualities(Reads reads, int i) {
             int sum = 0;
-            for (int k = beginOf(i); k < endOf(i); k++) {
+            for (int k = begins[i]; k < ends[i]; k++) {
                 sum += reads.quality(i, k);
             }
             return sum;
