@@ -211,11 +211,12 @@ public final class ReadBins {
             throw new IllegalStateException("nothing is sorted");
         }
         // The size is known before the first octet is put down: a text too long must leave the last one.
-        if (sizeOfText(form, bin, best) > WRITTEN_LIMIT) {
+        int size = sizeOfText(form, bin, best);
+        if (size > WRITTEN_LIMIT) {
             return NONE;
         }
         writeText(form, bin, best);
-        return written.size();
+        return size;
     }
 
     public int out(int k) throws IndexOutOfBoundsException {
@@ -732,13 +733,14 @@ public final class ReadBins {
 
         private boolean adapterBegins(Reads reads, int i, int at) {
             int compared = Math.min(adapter.size(), end - at);
+            int allowed = compared / 5;
             int differing = 0;
-            for (int k = 0; k < compared; k++) {
+            for (int k = 0; k < compared && differing <= allowed; k++) {
                 if (adapter.at(k) != reads.letterOctet(i, at + k)) {
                     differing++;
                 }
             }
-            return differing <= compared / 5;
+            return differing <= allowed;
         }
 
         private void cutWorstEnd(Reads reads, int i) {
@@ -809,7 +811,6 @@ public final class ReadBins {
 
         /** Until it is finished, the reads are added in their order. */
         void restart(int barcodeCount, int tagSize, int way) {
-            done = false;
             readCount = 0;
             binCount = barcodeCount;
             grouping.restart(tagSize, way);

@@ -10,6 +10,8 @@ public final class GroupTest {
         shortReadsStayOut();
         binsByThemselves();
         bestReads();
+        bestByInsertAlone();
+        sortedAnew();
         wrongArguments();
         DUE.end();
     }
@@ -49,6 +51,7 @@ public final class GroupTest {
     private static void byCount() {
         DUE.is("9: way 1, 1 and 1", groupsOf(2, 1, "AA", "AC"), "0 0");
         DUE.is("9: way 1, 2 and 2", groupsOf(2, 1, "AC", "AC", "AA", "AA"), "1 1 0 0");
+        DUE.is("9: way 1, 2 and 2 the other way", groupsOf(2, 1, "AA", "AA", "AC", "AC"), "0 0 1 1");
         DUE.is("9: way 1, 3 and 2", groupsOf(2, 1, "AC", "AC", "AA", "AA", "AC"), "0 0 0 0 0");
         DUE.is("9: way 1, 4 and 3", groupsOf(2, 1, "AC", "AC", "AA", "AA", "AC", "AA", "AC"), "0 0 1 1 0 1 0");
         DUE.is("9: way 1, 5 and 3", groupsOf(2, 1, "AC", "AC", "AA", "AA", "AC", "AA", "AC", "AC"), "0 0 0 0 0 0 0 0");
@@ -109,6 +112,11 @@ public final class GroupTest {
             DUE.is("10: of bin -1", x.about(3, 6), -1);
             DUE.refused("13: bin 1 has one", Due.INDEX, () -> x.group(1, 1, 0));
         }
+        // AG of bin 1 is near to AC, but that is in bin 0.
+        Due.read(x, 1, ">a\nAAAAAT\n>b\nAAAACT\n>c\nCCCTTT\n>d\nCCCAGT\n");
+        x.sort(2, 0);
+        DUE.is("12: groups of bin 0", x.bin(0, 2), 1);
+        DUE.is("12: groups of bin 1", x.bin(1, 2), 2);
     }
 
     private static void bestReads() {
@@ -127,6 +135,41 @@ public final class GroupTest {
         x.limits(0, 0, 0);
         x.sort(1, 0);
         DUE.is("13: sums of 0", x.group(0, 0, 1), 0);
+    }
+
+    // What is cut off behind the insert of b counts for nothing, nor does the better read of another bin.
+    private static void bestByInsertAlone() {
+        ReadBins x = new ReadBins();
+        Due.barcode(x, "AAA");
+        Due.barcode(x, "CCC");
+        Due.read(x, 0, "@x\nCCCTT\n+\n~~~~~\n@a\nAAATT\n+\n###6#\n@b\nAAATTNN\n+\n~~~5#~~\n");
+        x.sort(0, 0);
+        DUE.is("13: of bin 0", x.group(0, 0, 1), 1);
+        DUE.is("13: of bin 1", x.group(1, 0, 1), 0);
+        Due.read(x, 0, "@a\nAAATT\n+\n####~\n@b\nAAANTT\n+\n~~~~#}\n");
+        x.sort(0, 0);
+        DUE.is("13: what stands before the insert", x.group(0, 0, 1), 0);
+    }
+
+    // Reads that were grouped before and are short now stand for no tag any more.
+    private static void sortedAnew() {
+        ReadBins x = new ReadBins();
+        Due.barcode(x, "A");
+        Due.read(x, 1, ">a\nACCT\n>b\nACCTT\n>c\nACGTT\n");
+        for (int way = 0; way < 2; way++) {
+            x.limits(0, 0, 1);
+            x.sort(2, way);
+            DUE.is("13: all", x.group(0, 0, 0) + " " + x.group(0, 0, 2), "3 2");
+            x.limits(0, 0, 2);
+            x.sort(2, way);
+            DUE.is("10: short now", x.about(0, 6), -1);
+            DUE.is("10: its group", x.about(1, 6), 0);
+            DUE.is("13: two", x.group(0, 0, 0) + " " + x.group(0, 0, 1) + " " + x.group(0, 0, 2), "2 1 2");
+        }
+        Due.read(x, 1, ">a\nAGGTT\n");
+        x.sort(2, 0);
+        DUE.is("12: groups", x.bin(0, 2), 1);
+        DUE.is("13: one", x.group(0, 0, 0), 1);
     }
 
     private static void wrongArguments() {

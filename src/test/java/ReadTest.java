@@ -15,6 +15,7 @@ public final class ReadTest {
         tooLong();
         tooManyReads();
         faultsLeaveWhatIsThere();
+        manyTexts();
         wrongForms();
         wrongIndexes();
         DUE.end();
@@ -171,6 +172,19 @@ public final class ReadTest {
         DUE.is("4: the last fault's place stays", x.place(), 4);
         DUE.is("3: nothing is sorted", x.about(0, 4), -1);
         DUE.refused("3: nothing is sorted", Due.STATE, () -> x.bin(-1, 0));
+    }
+
+    // Together far more octets than one tape has, with faults between them.
+    private static void manyTexts() {
+        ReadBins x = new ReadBins();
+        String read = "@n\n" + LETTERS_120 + "\n+\n" + "#".repeat(120) + "\n";
+        for (int n = 0; n < 5; n++) {
+            DUE.is("3: text " + n, Due.read(x, 0, read.repeat(20)), 20);
+            DUE.is("11: letters of text " + n, Due.letters(x, 19, 1), LETTERS_120);
+            DUE.is("11: qualities of text " + n, Due.letters(x, 19, 2), "#".repeat(120));
+            DUE.is("3: a fault", Due.read(x, 0, read.repeat(20) + "A"), -2);
+            DUE.is("11: the letters stay", Due.letters(x, 19, 1), LETTERS_120);
+        }
     }
 
     private static void wrongForms() {

@@ -14,6 +14,7 @@ public final class SortTest {
         unknownLetters();
         bins();
         laterBarcodes();
+        firstReadShort();
         DUE.end();
     }
 
@@ -224,5 +225,19 @@ public final class SortTest {
         DUE.is("12: a bin now", x.bin(1, 0), 1);
         Due.read(x, 1, ">a\nAAT\n");
         DUE.refused("12: a bin that is not sorted", Due.STATE, () -> x.bin(1, 0));
+    }
+
+    private static void firstReadShort() {
+        ReadBins x = new ReadBins();
+        Due.barcode(x, "AAA");
+        Due.read(x, 1, ">a\nAAA\n>b\nAAAT\n>c\nAAA\n");
+        x.sort(0, 0);
+        DUE.is("12: reads", x.bin(0, 0), 3);
+        DUE.is("12: short ones", x.bin(0, 1), 2);
+        Due.read(x, 1, ">a\nN\n");
+        x.sort(0, 0);
+        DUE.is("12: reads of bin -1", x.bin(-1, 0), 1);
+        DUE.is("12: short ones of bin -1", x.bin(-1, 1), 1);
+        DUE.is("12: bin 0 is empty", x.bin(0, 0) + x.bin(0, 1) + x.bin(0, 2), 0);
     }
 }
