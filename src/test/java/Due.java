@@ -12,13 +12,15 @@ final class Due {
 
     private int checked;
     private int wrong;
+    private String sentence = "";
+
+    /** The words of the document that the answers from here on are due by. */
+    void sentence(String words) {
+        sentence = "\"" + words + "\" - ";
+    }
 
     void is(String what, long got, long want) {
-        checked++;
-        if (got != want) {
-            wrong++;
-            System.out.println(what + " answered " + got + ", due is " + want);
-        }
+        is(what, "" + got, "" + want);
     }
 
     void is(String what, boolean got, boolean want) {
@@ -29,19 +31,22 @@ final class Due {
         checked++;
         if (!got.equals(want)) {
             wrong++;
-            System.out.println(what + " answered " + got + ", due is " + want);
+            System.out.println(sentence + what + " answered " + got + ", due is " + want);
         }
     }
 
     /** The very class has to be thrown: one that the machine throws is of a class below. */
     void refused(String what, Class<? extends RuntimeException> kind, Call call) {
-        String got;
+        is(what, answerOf(call), kind.getSimpleName());
+    }
+
+    /** What a call answers, or the name of the class that it throws. */
+    static String answerOf(Call call) {
         try {
-            got = "" + call.answer();
+            return "" + call.answer();
         } catch (RuntimeException e) {
-            got = e.getClass().getSimpleName();
+            return e.getClass().getSimpleName();
         }
-        is(what, got, kind.getSimpleName());
     }
 
     void end() {
@@ -64,6 +69,25 @@ final class Due {
             size = x.feed(n, value);
         }
         return size;
+    }
+
+    /**
+     * Brings the tape to a size, as a text of form 0. No object has calls enough to be fed so much: a text of
+     * form 1 is fed, and what form 0 makes of it is nearly twice as long.
+     */
+    static int fill(ReadBins x, int size) {
+        read(x, 1, lettersFor(size));
+        x.write(0, -2, false);
+        return x.again();
+    }
+
+    /** A text of form 1 whose reads have so many octets (9 or more) in form 0. */
+    static String lettersFor(int size) {
+        String longRead = ">n\n" + "ACGT".repeat(30) + "\n";
+        int rest = (size - 9) % 247 + 9;
+        int letters = Math.min(120, (rest - 7) / 2);
+        String name = "m".repeat(rest - 6 - 2 * letters);
+        return longRead.repeat((size - 9) / 247) + ">" + name + "\n" + "C".repeat(letters) + "\n";
     }
 
     static int read(ReadBins x, int form, String text) {
@@ -92,7 +116,8 @@ final class Due {
     /** The text of the reads as they stand, by letter() alone. */
     static String letters(ReadBins x, int i, int which) {
         StringBuilder text = new StringBuilder();
-        for (int k = 0; k < x.about(i, which == 0 ? 0 : 1); k++) {
+        int size = x.about(i, which == 0 ? 0 : 1);
+        for (int k = 0; k < size; k++) {
             text.append((char) (x.letter(i, which, k) + (which == 2 ? 33 : 0)));
         }
         return text.toString();

@@ -1,9 +1,13 @@
 import java.util.Random;
 
-/** Long runs of calls, made from fixed numbers, on the class and on the model: every answer has to be the same. */
+/**
+ * Runs of as many calls as an object is promised for, made from fixed numbers, on the class and on the model: every
+ * answer has to be the same.
+ */
 public final class ModelTest {
     private static final Due DUE = new Due();
-    private static final int RUNS = 300;
+    private static final int RUNS = 2000;
+    private static final int CALLS = 512;
 
     interface Call {
         long answer();
@@ -15,6 +19,7 @@ public final class ModelTest {
     private final Model model = new Model();
     private final String[] barcodes = new String[4];
     private final int tagLetters;
+    private int callsLeft = CALLS;
 
     private ModelTest(int run) {
         this.run = run;
@@ -38,9 +43,9 @@ public final class ModelTest {
             feedText(barcodes[random.nextInt(barcodes.length)]);
             same("barcode", x::barcode, model::barcode);
         }
-        for (int n = 0; n < 12; n++) {
+        while (callsLeft > 0) {
             oneCall();
-            lookAtAll();
+            lookAround();
         }
     }
 
@@ -98,7 +103,7 @@ public final class ModelTest {
 
     private String text(int form) {
         StringBuilder text = new StringBuilder();
-        int count = random.nextInt(12) == 0 ? 58 + random.nextInt(5) : 1 + random.nextInt(25);
+        int count = random.nextInt(12) == 0 ? 58 + random.nextInt(5) : 1 + random.nextInt(14);
         for (int i = 0; i < count; i++) {
             text.append(form == 1 ? '>' : '@');
             String name = letters("abc:/1@>+", random.nextInt(60) == 0 ? 39 + random.nextInt(3) : 1 + random.nextInt(4));
@@ -162,50 +167,39 @@ public final class ModelTest {
         same("write " + form + " " + bin + " " + best, () -> x.write(form, bin, best), () -> model.write(form, bin, best));
     }
 
-    private void lookAtAll() {
+    private void lookAround() {
         same("place", x::place, model::place);
-        for (int what = -1; what <= 4; what++) {
-            int w = what;
-            same("told " + w, () -> x.told(w), () -> model.told(w));
-        }
-        for (int i = -1; i <= 60; i++) {
-            lookAtRead(i);
-        }
-        for (int bin = -2; bin <= 5; bin++) {
-            lookAtBin(bin);
-        }
-        for (int n = 0; n < 100; n++) {
-            int k = random.nextInt(n % 2 == 0 ? 20 : 2000) - 1;
+        int what = edge(4);
+        same("told " + what, () -> x.told(what), () -> model.told(what));
+        for (int n = random.nextInt(12); n > 0; n--) {
+            lookAtRead(random.nextInt(10) == 0 ? edge(61) : random.nextInt(14));
+            lookAtBin(random.nextInt(5) == 0 ? edge(16) - 1 : random.nextInt(3) - 1);
+            int k = random.nextInt(random.nextBoolean() ? 40 : 1000) - 1;
             same("out " + k, () -> x.out(k), () -> model.out(k));
         }
     }
 
     private void lookAtRead(int i) {
-        for (int what = -1; what <= 7; what++) {
-            int w = what;
-            same("about " + i + " " + w, () -> x.about(i, w), () -> model.about(i, w));
-        }
-        for (int n = 0; n < 6; n++) {
-            int which = random.nextInt(10) == 0 ? edge(3) : random.nextInt(3);
-            int k = random.nextInt(random.nextInt(3) == 0 ? 130 : 12) - 1;
-            same("letter " + i + " " + which + " " + k, () -> x.letter(i, which, k), () -> model.letter(i, which, k));
-        }
+        int what = edge(7);
+        same("about " + i + " " + what, () -> x.about(i, what), () -> model.about(i, what));
+        int which = random.nextInt(10) == 0 ? edge(3) : random.nextInt(3);
+        int k = random.nextInt(random.nextInt(3) == 0 ? 130 : 12) - 1;
+        same("letter " + i + " " + which + " " + k, () -> x.letter(i, which, k), () -> model.letter(i, which, k));
     }
 
     private void lookAtBin(int bin) {
-        for (int what = -1; what <= 3; what++) {
-            int w = what;
-            same("bin " + bin + " " + w, () -> x.bin(bin, w), () -> model.bin(bin, w));
-            for (int g = -1; g <= 5; g++) {
-                int one = g;
-                String call = "group " + bin + " " + g + " " + w;
-                same(call, () -> x.group(bin, one, w), () -> model.group(bin, one, w));
-            }
-        }
+        int what = random.nextInt(8) == 0 ? edge(3) : random.nextInt(3);
+        same("bin " + bin + " " + what, () -> x.bin(bin, what), () -> model.bin(bin, what));
+        int g = random.nextInt(4) == 0 ? edge(8) : random.nextInt(3);
+        String call = "group " + bin + " " + g + " " + what;
+        same(call, () -> x.group(bin, g, what), () -> model.group(bin, g, what));
     }
 
     private void same(String call, Call ours, Call due) {
-        DUE.is("run " + run + ": " + call, answer(ours), answer(due));
+        if (callsLeft > 0) {
+            callsLeft--;
+            DUE.is("run " + run + ": " + call, answer(ours), answer(due));
+        }
     }
 
     private static String answer(Call call) {

@@ -177,13 +177,16 @@ public final class ReadTest {
     // Together far more octets than one tape has, with faults between them.
     private static void manyTexts() {
         ReadBins x = new ReadBins();
-        String read = "@n\n" + LETTERS_120 + "\n+\n" + "#".repeat(120) + "\n";
-        for (int n = 0; n < 5; n++) {
-            DUE.is("3: text " + n, Due.read(x, 0, read.repeat(20)), 20);
-            DUE.is("11: letters of text " + n, Due.letters(x, 19, 1), LETTERS_120);
-            DUE.is("11: qualities of text " + n, Due.letters(x, 19, 2), "#".repeat(120));
-            DUE.is("3: a fault", Due.read(x, 0, read.repeat(20) + "A"), -2);
-            DUE.is("11: the letters stay", Due.letters(x, 19, 1), LETTERS_120);
+        DUE.is("16: a long text", Due.fill(x, 5990), 5990);
+        for (int n = 0; n < 10; n++) {
+            DUE.is("3: text " + n, x.read(0), 25);
+            DUE.is("11: the last letter of text " + n, x.letter(24, 1, x.about(24, 1) - 1), 'C');
+            DUE.is("11: the last quality of text " + n, x.letter(24, 2, x.about(24, 1) - 1), 40);
+            x.again();
+            x.feed(1, 'A');
+            DUE.is("3: a fault", x.read(0), -2);
+            DUE.is("4: its place", x.place(), 5990);
+            x.again();
         }
     }
 

@@ -68,7 +68,7 @@ public final class TapeTest {
 
     private static void fullTape() {
         ReadBins x = new ReadBins();
-        DUE.is("2: 5999 octets", Due.feed(x, "A".repeat(5999)), 5999);
+        DUE.is("2: 5999 octets", Due.fill(x, 5999), 5999);
         DUE.refused("2: 6001 octets", Due.ARGUMENT, () -> x.feed(2, 65));
         DUE.refused("2: 6007 octets", Due.ARGUMENT, () -> x.feed(8, 65));
         DUE.is("2: 6000 octets", x.feed(1, 65), 6000);

